@@ -1,6 +1,6 @@
 import java.util.Arrays;
 
-/** Panes of a story's screen. The document's promises are kept call by call; README.md has an example. */
+/** Panes of a story's screen. Words in capitals are the terms of the document, which says what each call promises. */
 public final class GlkPanes {
     public static final int BAD = -1, NONE = -2, NOT = -3, FULL = -4;
 

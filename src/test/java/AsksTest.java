@@ -4,7 +4,6 @@ public final class AsksTest {
     private static final int LEFT = 0, RIGHT = 1, ABOVE = 2, BELOW = 3, SHARE = 4;
     private static final int BLANK = 0, TEXT = 1, GRID = 2, PICTURE = 3;
     private static final int KEY = 0, LINE = 1, LINK = 2, CLICK = 3;
-    private static final int[] NO_PANES = {0, -1, 8, 60, 61, Integer.MAX_VALUE, Integer.MIN_VALUE};
 
     public static void main(String[] args) {
         askCan();
@@ -30,22 +29,12 @@ public final class AsksTest {
         Due.end();
     }
 
-    /** 1 TEXT, 2 GRID, 4 PICTURE, 6 BLANK; 3, 5 and 7 are PAIRS. */
-    private static GlkPanes allKinds() {
-        GlkPanes x = new GlkPanes(41, 12);
-        x.open(0, 0, 0, TEXT);
-        x.open(1, RIGHT, 20, GRID);
-        x.open(1, BELOW, 48, PICTURE);
-        x.open(2, BELOW + SHARE, 50, BLANK);
-        return x;
-    }
-
     private static void askCan() {
         int[][] due = {{1, 1, 1, NOT}, {1, 1, 1, 1}, {NOT, NOT, NOT, NOT}, {NOT, NOT, NOT, NOT},
             {NOT, NOT, NOT, NOT}, {NOT, NOT, NOT, NOT}, {NOT, NOT, NOT, NOT}};
         for (int n = 1; n <= 7; n++) {
             for (int kind = 0; kind < 4; kind++) {
-                GlkPanes x = allKinds();
+                GlkPanes x = Play.allKinds();
                 String call = "ask(" + n + ", " + kind + ", 1)";
                 Due.is(call, x.ask(n, kind, 1), due[n - 1][kind]);
                 Due.is(call + " again", x.ask(n, kind, 1), NOT);
@@ -56,14 +45,14 @@ public final class AsksTest {
     }
 
     private static void askRefuses() {
-        GlkPanes x = allKinds();
+        GlkPanes x = Play.allKinds();
         int[] limits = {0, -1, 41, Integer.MAX_VALUE, Integer.MIN_VALUE};
         for (int limit : limits) {
             Due.is("LIMIT " + limit, x.ask(1, LINE, limit), BAD);
             Due.is("LIMIT " + limit + " of BLANK", x.ask(6, LINE, limit), BAD);
         }
         Due.is("no LINE is asked for", x.sign(1, 65), 1);
-        for (int n : NO_PANES) {
+        for (int n : Play.NO_PANES) {
             Due.is("ask(" + n + ", 0, 0)", x.ask(n, KEY, 0), BAD);
         }
         int[] kinds = {-1, 4, Integer.MAX_VALUE, Integer.MIN_VALUE};
@@ -82,7 +71,7 @@ public final class AsksTest {
 
     private static void askOfBoth() {
         for (int n = 1; n <= 2; n++) {
-            GlkPanes x = allKinds();
+            GlkPanes x = Play.allKinds();
             Due.is("KEY", x.ask(n, KEY, 0), 1);
             Due.is("LINE at once", x.ask(n, LINE, 5), NOT);
             Due.is("LINE at once, BAD", x.ask(n, LINE, 0), BAD);
@@ -98,12 +87,12 @@ public final class AsksTest {
     }
 
     private static void cancel() {
-        GlkPanes x = allKinds();
+        GlkPanes x = Play.allKinds();
         for (int kind = 0; kind < 4; kind++) {
             for (int n = 1; n <= 7; n++) {
                 Due.is("cancel(" + n + ", " + kind + ")", x.cancel(n, kind), NONE);
             }
-            for (int n : NO_PANES) {
+            for (int n : Play.NO_PANES) {
                 Due.is("cancel(" + n + ", " + kind + ")", x.cancel(n, kind), BAD);
             }
         }
@@ -123,7 +112,7 @@ public final class AsksTest {
     }
 
     private static void cancelOfLine() {
-        GlkPanes x = allKinds();
+        GlkPanes x = Play.allKinds();
         x.ask(1, LINE, 9);
         Due.is("no signs", x.cancel(1, LINE), 0);
         Due.is("an END is ECHOED", x.pane(1, 8), 1);
@@ -162,7 +151,7 @@ public final class AsksTest {
     }
 
     private static void echo() {
-        GlkPanes x = allKinds();
+        GlkPanes x = Play.allKinds();
         for (int n = 1; n <= 2; n++) {
             Due.is("at first it does", x.echo(n, true), 1);
             Due.is("still", x.echo(n, false), 1);
@@ -176,7 +165,7 @@ public final class AsksTest {
             Due.is("echo(" + n + ", false)", x.echo(n, false), NOT);
             Due.is("as at first", x.pane(n, 9), 1);
         }
-        for (int n : NO_PANES) {
+        for (int n : Play.NO_PANES) {
             Due.is("echo(" + n + ", true)", x.echo(n, true), BAD);
         }
         x.ask(1, LINE, 3);
@@ -190,7 +179,7 @@ public final class AsksTest {
         int[] keys = {8, 10, 32, 65, 126};
         for (int n = 1; n <= 2; n++) {
             for (int c : keys) {
-                GlkPanes x = allKinds();
+                GlkPanes x = Play.allKinds();
                 Due.is("without KEY", x.type(n, c), 0);
                 x.ask(n, KEY, 0);
                 Due.is("with KEY", x.type(n, c), 1);
@@ -205,7 +194,7 @@ public final class AsksTest {
     }
 
     private static void typeLine() {
-        GlkPanes x = allKinds();
+        GlkPanes x = Play.allKinds();
         x.ask(1, LINE, 10);
         Due.is("8 without a sign", x.type(1, 8), 0);
         Play.type(x, 1, "ab~ ");
@@ -226,11 +215,16 @@ public final class AsksTest {
         Due.is("an END is ECHOED", x.pane(1, 8), 5);
         Play.event("empty LINE", x, 1, 1, 0, 0);
         Due.is("no sign of the last one", x.event(4), 0);
+        x.ask(1, LINE, 10);
+        Play.type(x, 1, "y");
+        Due.is("8 takes the only sign", x.type(1, 8), 0);
+        Due.is("none is left", x.cancel(1, LINE), 0);
+        Due.is("an END is ECHOED again", x.pane(1, 8), 6);
         x.echo(1, false);
         x.ask(1, LINE, 10);
         Play.type(x, 1, "z");
         Due.is("without ECHO", x.type(1, 10), 1);
-        Due.is("not ECHOED", x.pane(1, 8), 5);
+        Due.is("not ECHOED", x.pane(1, 8), 6);
         Play.event("LINE without ECHO", x, 1, 1, 1, 0);
         Due.is("its sign", x.event(4), 'z');
         x.ask(2, LINE, 10);
@@ -245,7 +239,7 @@ public final class AsksTest {
     }
 
     private static void typeLimits() {
-        GlkPanes x = allKinds();
+        GlkPanes x = Play.allKinds();
         x.ask(1, LINE, 2);
         Play.type(x, 1, "abc");
         Due.is("no more than the LIMIT", x.shown(1, 2, 0, 0), 32);
@@ -271,7 +265,7 @@ public final class AsksTest {
     }
 
     private static void typeRefuses() {
-        GlkPanes x = allKinds();
+        GlkPanes x = Play.allKinds();
         x.ask(1, KEY, 0);
         int[] bad = {-1, 0, 7, 9, 11, 31, 127, Integer.MAX_VALUE, Integer.MIN_VALUE};
         for (int c : bad) {
@@ -279,7 +273,7 @@ public final class AsksTest {
             Due.is("type(6, " + c + ")", x.type(6, c), BAD);
         }
         Due.is("KEY is still asked for", x.cancel(1, KEY), 1);
-        for (int n : NO_PANES) {
+        for (int n : Play.NO_PANES) {
             Due.is("type(" + n + ", 65)", x.type(n, 65), BAD);
         }
         for (int n = 1; n <= 7; n++) {
@@ -357,7 +351,7 @@ public final class AsksTest {
         Play.rows("wrapped again", x, 1, "see the", "lamp!", "", "", "");
         Due.is("not there any more", x.click(7, 2), 0);
         Due.is("but here", x.click(4, 1), 1);
-        GlkPanes y = allKinds();
+        GlkPanes y = Play.allKinds();
         y.ask(1, KEY, 0);
         Due.is("a KEY is no CLICK", y.click(0, 0), 0);
         y.link(4, 5);
@@ -383,7 +377,7 @@ public final class AsksTest {
     }
 
     private static void take() {
-        GlkPanes x = allKinds();
+        GlkPanes x = Play.allKinds();
         Due.is("none", x.take(), NONE);
         x.ask(1, KEY, 0);
         x.type(1, 'k');
@@ -426,9 +420,11 @@ public final class AsksTest {
         for (int i = 0; i < 20; i++) {
             press(x, 40 + i);
         }
-        Due.is("a LINE's place used again", x.take(), 0);
-        for (int i = 4; i < 44; i++) {
-            Due.is("no sign is left of it", x.event(i), 0);
+        for (int e = 0; e < 20; e++) {
+            Due.is("the LINE went", x.take(), 0);
+            for (int i = 4; i < 44; i++) {
+                Due.is("no sign is left of it", x.event(i), 0);
+            }
         }
     }
 

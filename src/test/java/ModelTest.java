@@ -1,3 +1,8 @@
+import java.lang.reflect.Method;
+import java.lang.reflect.Modifier;
+import java.util.Arrays;
+import java.util.HashMap;
+import java.util.Map;
 import java.util.Random;
 
 /** Runs of 512 random calls, from seeds that are always the same, each answer against the plain model's. */
@@ -14,6 +19,9 @@ public final class ModelTest {
         {1, 0, 1, 1, 0, 0, 1, 240, 2, 2, 3, 3, 0, 0, 18, 6, 4, 0, 1, 1, 0, 8, 1, 0, 0, 0},
         {2, 1, 1, 1, 0, 0, 1, 4, 1, 2, 2, 2, 0, 0, 6, 2, 2, 0, 14, 2, 1, 50, 10, 6, 16, 3},
     };
+
+    private static final Map<String, Method> REAL_CALLS = callsOf(GlkPanes.class);
+    private static final Map<String, Method> MODEL_CALLS = callsOf(PlainModel.class);
 
     private final Random random;
     private final GlkPanes real;
@@ -162,9 +170,9 @@ public final class ModelTest {
     }
 
     private boolean same(String call, int... a) {
-        log.append(call).append(java.util.Arrays.toString(a));
-        int want = model(call, a);
-        int got = real(call, a);
+        log.append(call).append(Arrays.toString(a));
+        int want = answer(model, MODEL_CALLS, call, a);
+        int got = answer(real, REAL_CALLS, call, a);
         log.append(" answered ").append(got);
         if (got != want) {
             log.append(", the model ").append(want);
@@ -173,65 +181,28 @@ public final class ModelTest {
         return got == want;
     }
 
-    private int real(String call, int[] a) {
-        switch (call) {
-            case "open": return real.open(a[0], a[1], a[2], a[3]);
-            case "close": return real.close(a[0]);
-            case "arrange": return real.arrange(a[0], a[1], a[2], a[3]);
-            case "pane": return real.pane(a[0], a[1]);
-            case "pair": return real.pair(a[0], a[1]);
-            case "root": return real.root();
-            case "resize": return real.resize(a[0], a[1]);
-            case "sign": return real.sign(a[0], a[1]);
-            case "style": return real.style(a[0], a[1]);
-            case "link": return real.link(a[0], a[1]);
-            case "cursor": return real.cursor(a[0], a[1], a[2]);
-            case "at": return real.at(a[0], a[1]);
-            case "wipe": return real.wipe(a[0]);
-            case "picture": return real.picture(a[0], a[1]);
-            case "shown": return real.shown(a[0], a[1], a[2], a[3]);
-            case "lines": return real.lines(a[0]);
-            case "drawn": return real.drawn(a[0], a[1]);
-            case "under": return real.under(a[0], a[1]);
-            case "ask": return real.ask(a[0], a[1], a[2]);
-            case "cancel": return real.cancel(a[0], a[1]);
-            case "echo": return real.echo(a[0], a[1] == 1);
-            case "type": return real.type(a[0], a[1]);
-            case "click": return real.click(a[0], a[1]);
-            case "take": return real.take();
-            case "event": return real.event(a[0]);
-            default: return real.count(a[0]);
+    private static Map<String, Method> callsOf(Class<?> c) {
+        Map<String, Method> calls = new HashMap<>();
+        for (Method m : c.getDeclaredMethods()) {
+            if (!Modifier.isPrivate(m.getModifiers())) {
+                calls.put(m.getName(), m);
+            }
         }
+        return calls;
     }
 
-    private int model(String call, int[] a) {
-        switch (call) {
-            case "open": return model.open(a[0], a[1], a[2], a[3]);
-            case "close": return model.close(a[0]);
-            case "arrange": return model.arrange(a[0], a[1], a[2], a[3]);
-            case "pane": return model.pane(a[0], a[1]);
-            case "pair": return model.pair(a[0], a[1]);
-            case "root": return model.root();
-            case "resize": return model.resize(a[0], a[1]);
-            case "sign": return model.sign(a[0], a[1]);
-            case "style": return model.style(a[0], a[1]);
-            case "link": return model.link(a[0], a[1]);
-            case "cursor": return model.cursor(a[0], a[1], a[2]);
-            case "at": return model.at(a[0], a[1]);
-            case "wipe": return model.wipe(a[0]);
-            case "picture": return model.picture(a[0], a[1]);
-            case "shown": return model.shown(a[0], a[1], a[2], a[3]);
-            case "lines": return model.lines(a[0]);
-            case "drawn": return model.drawn(a[0], a[1]);
-            case "under": return model.under(a[0], a[1]);
-            case "ask": return model.ask(a[0], a[1], a[2]);
-            case "cancel": return model.cancel(a[0], a[1]);
-            case "echo": return model.echo(a[0], a[1] == 1);
-            case "type": return model.type(a[0], a[1]);
-            case "click": return model.click(a[0], a[1]);
-            case "take": return model.take();
-            case "event": return model.event(a[0]);
-            default: return model.count(a[0]);
+    private static int answer(Object on, Map<String, Method> calls, String call, int[] a) {
+        Object[] arguments = new Object[a.length];
+        for (int i = 0; i < a.length; i++) {
+            arguments[i] = a[i];
+        }
+        if (call.equals("echo")) {
+            arguments[1] = a[1] == 1;
+        }
+        try {
+            return (Integer) calls.get(call).invoke(on, arguments);
+        } catch (ReflectiveOperationException e) {
+            throw new IllegalStateException(call + Arrays.toString(a), e);
         }
     }
 }

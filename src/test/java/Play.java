@@ -1,6 +1,19 @@
 /** Short ways to do with a screen what takes many calls. */
 final class Play {
+    /** Numbers that no pane of allKinds() has. */
+    static final int[] NO_PANES = {0, -1, 8, 60, 61, Integer.MAX_VALUE, Integer.MIN_VALUE};
+
     private Play() {
+    }
+
+    /** 1 TEXT, 2 GRID, 4 PICTURE, 6 BLANK; 3, 5 and 7 are PAIRS. */
+    static GlkPanes allKinds() {
+        GlkPanes x = new GlkPanes(41, 12);
+        x.open(0, 0, 0, 1);
+        x.open(1, 1, 20, 2);
+        x.open(1, 3, 48, 3);
+        x.open(2, 7, 50, 0);
+        return x;
     }
 
     static void write(GlkPanes x, int pane, String signs) {

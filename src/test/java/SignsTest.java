@@ -4,7 +4,6 @@ public final class SignsTest {
     private static final int LEFT = 0, RIGHT = 1, ABOVE = 2, BELOW = 3, SHARE = 4, NO_BORDER = 8;
     private static final int BLANK = 0, TEXT = 1, GRID = 2, PICTURE = 3;
     private static final int KEY = 0, LINE = 1, LINK = 2;
-    private static final int[] NO_PANES = {0, -1, 8, 60, 61, Integer.MAX_VALUE, Integer.MIN_VALUE};
 
     public static void main(String[] args) {
         signRefuses();
@@ -30,25 +29,15 @@ public final class SignsTest {
         Due.end();
     }
 
-    /** 1 TEXT, 2 GRID, 4 PICTURE, 6 BLANK; 3, 5 and 7 are PAIRS. */
-    private static GlkPanes allKinds() {
-        GlkPanes x = new GlkPanes(41, 12);
-        x.open(0, 0, 0, TEXT);
-        x.open(1, RIGHT, 20, GRID);
-        x.open(1, BELOW, 48, PICTURE);
-        x.open(2, BELOW + SHARE, 50, BLANK);
-        return x;
-    }
-
     private static void signRefuses() {
-        GlkPanes x = allKinds();
+        GlkPanes x = Play.allKinds();
         int[] bad = {-1, 0, 8, 9, 11, 13, 31, 127, 128, 256 + 65, Integer.MAX_VALUE, Integer.MIN_VALUE};
         for (int c : bad) {
             Due.is("sign(1, " + c + ")", x.sign(1, c), BAD);
             Due.is("sign(2, " + c + ")", x.sign(2, c), BAD);
             Due.is("sign(6, " + c + "), BAD ahead of NOT", x.sign(6, c), BAD);
         }
-        for (int n : NO_PANES) {
+        for (int n : Play.NO_PANES) {
             Due.is("sign(" + n + ", 65)", x.sign(n, 65), BAD);
         }
         int[] not = {3, 4, 5, 6, 7};
@@ -198,7 +187,7 @@ public final class SignsTest {
     }
 
     private static void style() {
-        GlkPanes x = allKinds();
+        GlkPanes x = Play.allKinds();
         int[] leaves = {1, 2, 4, 6};
         for (int n : leaves) {
             Due.is("at first", x.style(n, 10), 0);
@@ -213,13 +202,13 @@ public final class SignsTest {
             Due.is("of a PAIR", x.style(n, 1), NOT);
             Due.is("of a PAIR, BAD", x.style(n, 11), BAD);
         }
-        for (int n : NO_PANES) {
+        for (int n : Play.NO_PANES) {
             Due.is("style(" + n + ", 1)", x.style(n, 1), BAD);
         }
     }
 
     private static void link() {
-        GlkPanes x = allKinds();
+        GlkPanes x = Play.allKinds();
         int[] leaves = {1, 2, 4, 6};
         for (int n : leaves) {
             Due.is("at first", x.link(n, 999), 0);
@@ -234,7 +223,7 @@ public final class SignsTest {
             Due.is("of a PAIR", x.link(n, 1), NOT);
             Due.is("of a PAIR, BAD", x.link(n, 1000), BAD);
         }
-        for (int n : NO_PANES) {
+        for (int n : Play.NO_PANES) {
             Due.is("link(" + n + ", 1)", x.link(n, 1), BAD);
         }
     }
@@ -257,19 +246,19 @@ public final class SignsTest {
         Due.is("with a LINE", x.cursor(1, 1, 1), NOT);
         Due.is("with a LINE, BAD", x.cursor(1, 100, 1), BAD);
         Due.is("column stays", x.at(1, 0), 99);
-        GlkPanes y = allKinds();
+        GlkPanes y = Play.allKinds();
         int[] others = {1, 3, 4, 5, 6, 7};
         for (int n : others) {
             Due.is("cursor(" + n + ", 0, 0)", y.cursor(n, 0, 0), NOT);
             Due.is("cursor(" + n + ", 0, 100)", y.cursor(n, 0, 100), BAD);
         }
-        for (int n : NO_PANES) {
+        for (int n : Play.NO_PANES) {
             Due.is("cursor(" + n + ", 0, 0)", y.cursor(n, 0, 0), BAD);
         }
     }
 
     private static void at() {
-        GlkPanes x = allKinds();
+        GlkPanes x = Play.allKinds();
         Due.is("column at first", x.at(2, 0), 0);
         Due.is("row at first", x.at(2, 1), 0);
         x.cursor(2, 12, 34);
@@ -284,7 +273,7 @@ public final class SignsTest {
         for (int n : others) {
             Due.is("at(" + n + ", 0)", x.at(n, 0), NOT);
         }
-        for (int n : NO_PANES) {
+        for (int n : Play.NO_PANES) {
             Due.is("at(" + n + ", 0)", x.at(n, 0), BAD);
         }
         x.ask(2, LINE, 4);
@@ -294,7 +283,7 @@ public final class SignsTest {
     }
 
     private static void wipe() {
-        GlkPanes x = allKinds();
+        GlkPanes x = Play.allKinds();
         Play.write(x, 1, "some text\nmore");
         x.style(2, 5);
         x.link(2, 6);
@@ -321,13 +310,13 @@ public final class SignsTest {
         for (int n : others) {
             Due.is("wipe(" + n + ")", x.wipe(n), NOT);
         }
-        for (int n : NO_PANES) {
+        for (int n : Play.NO_PANES) {
             Due.is("wipe(" + n + ")", x.wipe(n), BAD);
         }
     }
 
     private static void picture() {
-        GlkPanes x = allKinds();
+        GlkPanes x = Play.allKinds();
         Due.is("at first", x.picture(4, 999), 0);
         Due.is("then", x.picture(4, 1), 999);
         Due.is("too many", x.picture(4, 1000), BAD);
@@ -339,13 +328,13 @@ public final class SignsTest {
             Due.is("picture(" + n + ", 1)", x.picture(n, 1), NOT);
             Due.is("picture(" + n + ", 1000)", x.picture(n, 1000), BAD);
         }
-        for (int n : NO_PANES) {
+        for (int n : Play.NO_PANES) {
             Due.is("picture(" + n + ", 1)", x.picture(n, 1), BAD);
         }
     }
 
     private static void shownRefuses() {
-        GlkPanes x = allKinds();
+        GlkPanes x = Play.allKinds();
         int[] all = {1, 2, 3, 4, 5, 6, 7};
         for (int n : all) {
             int last = x.pane(n, 1) - 1;
@@ -360,7 +349,7 @@ public final class SignsTest {
             Due.is("what -1 of " + n, x.shown(n, 0, 0, -1), BAD);
             Due.is("what 3 of " + n, x.shown(n, 0, 0, 3), BAD);
         }
-        for (int n : NO_PANES) {
+        for (int n : Play.NO_PANES) {
             Due.is("shown(" + n + ", 0, 0, 0)", x.shown(n, 0, 0, 0), BAD);
         }
         GlkPanes y = new GlkPanes(10, 4);
@@ -517,6 +506,8 @@ public final class SignsTest {
         wrapped("abcdefghijk", 5, "abcde", "fghij", "k");
         wrapped("abcdefghij", 5, "abcde", "fghij");
         wrapped("ab cd", 5, "ab cd");
+        wrapped("ab cd\nef", 5, "ab cd", "ef");
+        wrapped("ab cd\n", 5, "ab cd", "");
         wrapped("ab cde", 5, "ab", "cde");
         wrapped("abcde fg", 5, "abcde", "fg");
         wrapped("abcd efg", 5, "abcd", "efg");
@@ -545,13 +536,13 @@ public final class SignsTest {
     }
 
     private static void linesCount() {
-        GlkPanes x = allKinds();
+        GlkPanes x = Play.allKinds();
         Due.is("none", x.lines(1), 0);
         int[] others = {2, 3, 4, 5, 6, 7};
         for (int n : others) {
             Due.is("lines(" + n + ")", x.lines(n), NOT);
         }
-        for (int n : NO_PANES) {
+        for (int n : Play.NO_PANES) {
             Due.is("lines(" + n + ")", x.lines(n), BAD);
         }
         GlkPanes y = new GlkPanes(10, 4);
@@ -574,6 +565,10 @@ public final class SignsTest {
             y.type(1, 'm');
         }
         Due.is("with a LINE", y.lines(1), 400 + 10);
+        y.open(1, LEFT, 2, GRID);
+        Due.is("one column", y.pane(1, 1), 1);
+        Due.is("most LINES of all", y.lines(1), 400 + 40);
+        Due.is("the last one is shown", y.shown(1, 0, 3, 0), 'm');
     }
 
     private static void drawn() {
