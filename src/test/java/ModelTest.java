@@ -1,8 +1,4 @@
-import java.lang.reflect.Method;
-import java.lang.reflect.Modifier;
 import java.util.Arrays;
-import java.util.HashMap;
-import java.util.Map;
 import java.util.Random;
 
 /** Runs of 512 random calls, from seeds that are always the same, each answer against the plain model's. */
@@ -20,8 +16,8 @@ public final class ModelTest {
         {2, 1, 1, 1, 0, 0, 1, 4, 1, 2, 2, 2, 0, 0, 6, 2, 2, 0, 14, 2, 1, 50, 10, 6, 16, 3},
     };
 
-    private static final Map<String, Method> REAL_CALLS = callsOf(GlkPanes.class);
-    private static final Map<String, Method> MODEL_CALLS = callsOf(PlainModel.class);
+    private static final Calls REAL_CALLS = new Calls(GlkPanes.class);
+    private static final Calls MODEL_CALLS = new Calls(PlainModel.class);
 
     private final Random random;
     private final GlkPanes real;
@@ -171,38 +167,13 @@ public final class ModelTest {
 
     private boolean same(String call, int... a) {
         log.append(call).append(Arrays.toString(a));
-        int want = answer(model, MODEL_CALLS, call, a);
-        int got = answer(real, REAL_CALLS, call, a);
+        int want = MODEL_CALLS.answer(model, call, a);
+        int got = REAL_CALLS.answer(real, call, a);
         log.append(" answered ").append(got);
         if (got != want) {
             log.append(", the model ").append(want);
         }
         log.append('\n');
         return got == want;
-    }
-
-    private static Map<String, Method> callsOf(Class<?> c) {
-        Map<String, Method> calls = new HashMap<>();
-        for (Method m : c.getDeclaredMethods()) {
-            if (!Modifier.isPrivate(m.getModifiers())) {
-                calls.put(m.getName(), m);
-            }
-        }
-        return calls;
-    }
-
-    private static int answer(Object on, Map<String, Method> calls, String call, int[] a) {
-        Object[] arguments = new Object[a.length];
-        for (int i = 0; i < a.length; i++) {
-            arguments[i] = a[i];
-        }
-        if (call.equals("echo")) {
-            arguments[1] = a[1] == 1;
-        }
-        try {
-            return (Integer) calls.get(call).invoke(on, arguments);
-        } catch (ReflectiveOperationException e) {
-            throw new IllegalStateException(call + Arrays.toString(a), e);
-        }
     }
 }

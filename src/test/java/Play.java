@@ -3,7 +3,24 @@ final class Play {
     /** Numbers that no pane of allKinds() has. */
     static final int[] NO_PANES = {0, -1, 8, 60, 61, Integer.MAX_VALUE, Integer.MIN_VALUE};
 
+    /** Numbers that no open pane of someClosed() has: no number at all, closed ones, ones to come, and none ever. */
+    static final int[] NOT_OPEN = {0, -1, 8, 9, 10, 59, 60, 61, 1000000, Integer.MAX_VALUE, Integer.MIN_VALUE};
+
     private Play() {
+    }
+
+    /** A screen whose ROOT, 1, is of a KIND. */
+    static GlkPanes root(int w, int h, int kind) {
+        GlkPanes x = new GlkPanes(w, h);
+        x.open(0, 0, 0, kind);
+        return x;
+    }
+
+    /** A screen of a TEXT, 1, that is split into 2; 3 is their PAIR. */
+    static GlkPanes split(int w, int h, int method, int size, int kind) {
+        GlkPanes x = root(w, h, 1);
+        x.open(1, method, size, kind);
+        return x;
     }
 
     /** 1 TEXT, 2 GRID, 4 PICTURE, 6 BLANK; 3, 5 and 7 are PAIRS. */
@@ -13,6 +30,14 @@ final class Play {
         x.open(1, 1, 20, 2);
         x.open(1, 3, 48, 3);
         x.open(2, 7, 50, 0);
+        return x;
+    }
+
+    /** As allKinds(), and 8 with its PAIR 9 had been open. */
+    static GlkPanes someClosed() {
+        GlkPanes x = allKinds();
+        x.open(1, 4, 50, 1);
+        x.close(8);
         return x;
     }
 
@@ -45,6 +70,23 @@ final class Play {
         }
     }
 
+    /** A TEXT of some signs has these LINES at a width, and nothing else is shown in it. */
+    static void wrapped(String text, int width, String... want) {
+        GlkPanes x = root(60, 24, 0);
+        x.open(1, 0, width, 1);
+        write(x, 2, text);
+        String what = "'" + text.replace('\n', '/') + "' at " + width;
+        Due.is(what + ": columns", x.pane(2, 1), width);
+        Due.is(what + ": LINES", x.lines(2), want.length);
+        for (int y = 0; y < 24; y++) {
+            String line = y < want.length ? want[y] : "";
+            for (int i = 0; i < width; i++) {
+                int due = i < line.length() ? line.charAt(i) : 32;
+                Due.is(what + ": row " + y + " column " + i, x.shown(2, i, y, 0), due);
+            }
+        }
+    }
+
     static void screen(String what, GlkPanes x, String... want) {
         Due.is(what + ": H", x.count(1), want.length);
         for (int y = 0; y < want.length && y < x.count(1); y++) {
@@ -62,6 +104,19 @@ final class Play {
         Due.is(what + ": rows of " + pane, x.pane(pane, 2), rows);
         Due.is(what + ": x of " + pane, x.pane(pane, 3), left);
         Due.is(what + ": y of " + pane, x.pane(pane, 4), upper);
+    }
+
+    /** The sign, STYLE and LINK that are shown at a place of a pane. */
+    static void ink(String what, GlkPanes x, int pane, int column, int row, int sign, int style, int link) {
+        String place = what + " at " + column + ", " + row + " of " + pane + ": ";
+        Due.is(place + "sign", x.shown(pane, column, row, 0), sign);
+        Due.is(place + "STYLE", x.shown(pane, column, row, 1), style);
+        Due.is(place + "LINK", x.shown(pane, column, row, 2), link);
+    }
+
+    static void cursor(String what, GlkPanes x, int pane, int column, int row) {
+        Due.is(what + ": CURSOR's column", x.at(pane, 0), column);
+        Due.is(what + ": CURSOR's row", x.at(pane, 1), row);
     }
 
     static void event(String what, GlkPanes x, int kind, int pane, int first, int second) {

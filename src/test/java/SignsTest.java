@@ -476,63 +476,46 @@ public final class SignsTest {
         Due.is("WRITTEN as before", x.pane(1, 8), 6 + 2 + 4 + 2 + 2);
     }
 
-    private static void wrapped(String text, int width, String... want) {
-        GlkPanes x = new GlkPanes(60, 24);
-        x.open(0, 0, 0, BLANK);
-        x.open(1, LEFT, width, TEXT);
-        Play.write(x, 2, text);
-        String what = "'" + text.replace('\n', '/') + "' at " + width;
-        Due.is(what + ": columns", x.pane(2, 1), width);
-        Due.is(what + ": LINES", x.lines(2), want.length);
-        for (int y = 0; y < 24; y++) {
-            String line = y < want.length ? want[y] : "";
-            for (int i = 0; i < width; i++) {
-                int due = i < line.length() ? line.charAt(i) : 32;
-                Due.is(what + ": row " + y + " column " + i, x.shown(2, i, y, 0), due);
-            }
-        }
-    }
-
     private static void linesWrap() {
-        wrapped("", 5);
-        wrapped("a", 5, "a");
-        wrapped("\n", 5, "", "");
-        wrapped("\n\n", 5, "", "", "");
-        wrapped("a\n", 5, "a", "");
-        wrapped("\na", 5, "", "a");
-        wrapped("a\n\nb", 5, "a", "", "b");
-        wrapped("abcde", 5, "abcde");
-        wrapped("abcdef", 5, "abcde", "f");
-        wrapped("abcdefghijk", 5, "abcde", "fghij", "k");
-        wrapped("abcdefghij", 5, "abcde", "fghij");
-        wrapped("ab cd", 5, "ab cd");
-        wrapped("ab cd\nef", 5, "ab cd", "ef");
-        wrapped("ab cd\n", 5, "ab cd", "");
-        wrapped("ab cde", 5, "ab", "cde");
-        wrapped("abcde fg", 5, "abcde", "fg");
-        wrapped("abcd efg", 5, "abcd", "efg");
-        wrapped("abcdef gh", 5, "abcde", "f gh");
-        wrapped("a b c d e f", 5, "a b c", "d e f");
-        wrapped("abcde ", 5, "abcde");
-        wrapped("abcde  ", 5, "abcde");
-        wrapped("abc   def", 5, "abc ", "def");
-        wrapped("ab     cd", 5, "ab   ", "cd");
-        wrapped("abcde     f", 5, "abcde", "f");
-        wrapped("      ", 5, "     ");
-        wrapped("       a", 5, "     ", "a");
-        wrapped(" abcdef", 5, "", "abcde", "f");
-        wrapped("  abcdef", 5, " ", "abcde", "f");
-        wrapped("abcde \nf", 5, "abcde", "f");
-        wrapped("abcde \n", 5, "abcde", "");
-        wrapped("abcde  \n\nf", 5, "abcde", "", "f");
-        wrapped("ab ", 5, "ab ");
-        wrapped("abc", 1, "a", "b", "c");
-        wrapped("a b", 1, "a", "b");
-        wrapped(" a", 1, "", "a");
-        wrapped("a  b", 1, "a", "b");
-        wrapped("a\nb", 1, "a", "b");
-        wrapped("the lamp is lit", 8, "the lamp", "is lit");
-        wrapped("a-b c_d", 4, "a-b", "c_d");
+        Play.wrapped("", 5);
+        Play.wrapped("a", 5, "a");
+        Play.wrapped("\n", 5, "", "");
+        Play.wrapped("\n\n", 5, "", "", "");
+        Play.wrapped("a\n", 5, "a", "");
+        Play.wrapped("\na", 5, "", "a");
+        Play.wrapped("a\n\nb", 5, "a", "", "b");
+        Play.wrapped("abcde", 5, "abcde");
+        Play.wrapped("abcdef", 5, "abcde", "f");
+        Play.wrapped("abcdefghijk", 5, "abcde", "fghij", "k");
+        Play.wrapped("abcdefghij", 5, "abcde", "fghij");
+        Play.wrapped("ab cd", 5, "ab cd");
+        Play.wrapped("ab cd\nef", 5, "ab cd", "ef");
+        Play.wrapped("ab cd\n", 5, "ab cd", "");
+        Play.wrapped("ab cde", 5, "ab", "cde");
+        Play.wrapped("abcde fg", 5, "abcde", "fg");
+        Play.wrapped("abcd efg", 5, "abcd", "efg");
+        Play.wrapped("abcdef gh", 5, "abcde", "f gh");
+        Play.wrapped("a b c d e f", 5, "a b c", "d e f");
+        Play.wrapped("abcde ", 5, "abcde");
+        Play.wrapped("abcde  ", 5, "abcde");
+        Play.wrapped("abc   def", 5, "abc ", "def");
+        Play.wrapped("ab     cd", 5, "ab   ", "cd");
+        Play.wrapped("abcde     f", 5, "abcde", "f");
+        Play.wrapped("      ", 5, "     ");
+        Play.wrapped("       a", 5, "     ", "a");
+        Play.wrapped(" abcdef", 5, "", "abcde", "f");
+        Play.wrapped("  abcdef", 5, " ", "abcde", "f");
+        Play.wrapped("abcde \nf", 5, "abcde", "f");
+        Play.wrapped("abcde \n", 5, "abcde", "");
+        Play.wrapped("abcde  \n\nf", 5, "abcde", "", "f");
+        Play.wrapped("ab ", 5, "ab ");
+        Play.wrapped("abc", 1, "a", "b", "c");
+        Play.wrapped("a b", 1, "a", "b");
+        Play.wrapped(" a", 1, "", "a");
+        Play.wrapped("a  b", 1, "a", "b");
+        Play.wrapped("a\nb", 1, "a", "b");
+        Play.wrapped("the lamp is lit", 8, "the lamp", "is lit");
+        Play.wrapped("a-b c_d", 4, "a-b", "c_d");
     }
 
     private static void linesCount() {

@@ -1,0 +1,14 @@
+import java.lang.annotation.ElementType;
+import java.lang.annotation.Retention;
+import java.lang.annotation.RetentionPolicy;
+import java.lang.annotation.Target;
+
+/** The words of the document that a test holds the program to, as they stand there. */
+@Retention(RetentionPolicy.RUNTIME)
+@Target(ElementType.METHOD)
+@interface Says {
+    String[] value();
+
+    /** The promise whose section has the words; 0: the Terms. */
+    int promise() default 0;
+}
