@@ -23,6 +23,7 @@ public final class AsksTest {
         clickRefuses();
         take();
         takeOf21();
+        takeAfterALine();
         event();
         eventsOfClosedPanes();
         count();
@@ -414,6 +415,10 @@ public final class AsksTest {
             }
             Due.is("none", x.take(), NONE);
         }
+    }
+
+    private static void takeAfterALine() {
+        GlkPanes x = Play.root(10, 5, TEXT);
         x.ask(1, LINE, 5);
         Play.type(x, 1, "abc");
         x.type(1, 10);
@@ -422,7 +427,7 @@ public final class AsksTest {
         }
         for (int e = 0; e < 20; e++) {
             Due.is("the LINE went", x.take(), 0);
-            for (int i = 4; i < 44; i++) {
+            for (int i = 4; i < 8; i++) {
                 Due.is("no sign is left of it", x.event(i), 0);
             }
         }

@@ -3,7 +3,7 @@ import java.util.Random;
 
 /** Runs of 512 random calls, from seeds that are always the same, each answer against the plain model's. */
 public final class ModelTest {
-    private static final int RUNS = 1500, CALLS = 512;
+    private static final int RUNS = 4000, CALLS = 512;
     private static final int[] WILD = {Integer.MIN_VALUE, -1000, -5, -4, -3, -2, -1, 0, 1, 2, 3, 4, 5, 7, 8, 9, 10, 11, 12, 13,
         15, 16, 23, 24, 25, 31, 32, 39, 40, 41, 43, 44, 59, 60, 61, 99, 100, 101, 126, 127, 999, 1000, Integer.MAX_VALUE};
 
@@ -49,44 +49,40 @@ public final class ModelTest {
         Due.end();
     }
 
+    /** Small differences would hide long behind single calls, so the last ones of the 512 are looks at all of the state. */
     private boolean run(int[] often) {
         int all = 0;
         for (int n : often) {
             all += n;
         }
-        if (random.nextInt(4) > 0 && !same("open", 0, 0, 0, 1 + random.nextInt(2))) {
-            return false;
-        }
-        for (int i = 1; i < CALLS; i++) {
-            int at = random.nextInt(all);
-            int call = 0;
-            while (at >= often[call]) {
-                at -= often[call++];
-            }
-            if (!one(call) || (i % 171 == 0 && !sameScreen())) {
-                return false;
-            }
-        }
-        return true;
-    }
-
-    /** Small differences would hide long behind single looks, so all of the state is looked at now and then. */
-    private boolean sameScreen() {
-        boolean same = true;
-        for (int what = 0; what <= 5; what++) {
-            same &= same("count", what);
-        }
-        for (int p = 1; p <= real.count(4); p++) {
-            for (int what = 0; what <= 9; what++) {
-                same &= same("pane", p, what) && same("pair", p, what) && same("at", p, what) && same("lines", p);
-            }
-        }
-        for (int y = 0; y < real.count(1); y++) {
-            for (int x = 0; x < real.count(0); x += 1 + random.nextInt(3)) {
-                same &= same("drawn", x, y) && same("under", x, y);
-            }
+        int changes = 50 + random.nextInt(CALLS - 50);
+        boolean same = random.nextInt(4) == 0 ? same("root") : same("open", 0, 0, 0, 1 + random.nextInt(2));
+        for (int i = 1; i < CALLS && same; i++) {
+            same = i < changes ? one(callOf(random.nextInt(all), often)) : look();
         }
         return same;
+    }
+
+    private static int callOf(int ticket, int[] often) {
+        int call = 0;
+        int left = ticket;
+        while (left >= often[call]) {
+            left -= often[call++];
+        }
+        return call;
+    }
+
+    private boolean look() {
+        int p = 1 + random.nextInt(Math.max(1, model.count(4)));
+        switch (random.nextInt(8)) {
+            case 0: return same("pane", p, random.nextInt(10));
+            case 1: return same("pair", p, random.nextInt(5));
+            case 2: return same("at", p, random.nextInt(2));
+            case 3: return same("lines", p);
+            case 4: return same("under", x(), y());
+            case 5: return shown();
+            default: return same("drawn", x(), y());
+        }
     }
 
     private int any(int least, int most) {
@@ -97,18 +93,18 @@ public final class ModelTest {
     }
 
     private int pane() {
-        int made = real.count(4);
+        int made = model.count(4);
         if (random.nextInt(40) == 0) {
             return any(0, made + 1);
         }
         int from = Math.max(1, made - random.nextInt(2) * 8);
         for (int tries = 0; tries < 20; tries++) {
             int n = tries < 5 ? any(from, made + 1) : any(1, made + 1);
-            if (real.pane(n, 0) >= 0) {
+            if (model.pane(n, 0) >= 0) {
                 return n;
             }
         }
-        return real.root();
+        return model.root();
     }
 
     private int character() {
@@ -122,11 +118,11 @@ public final class ModelTest {
     }
 
     private int x() {
-        return any(0, real.count(0) - 1);
+        return any(0, model.count(0) - 1);
     }
 
     private int y() {
-        return any(0, real.count(1) - 1);
+        return any(0, model.count(1) - 1);
     }
 
     private boolean one(int call) {
@@ -162,7 +158,7 @@ public final class ModelTest {
 
     private boolean shown() {
         int p = pane();
-        return same("shown", p, any(0, Math.max(0, real.pane(p, 1))), any(0, Math.max(0, real.pane(p, 2) - 1)), any(0, 2));
+        return same("shown", p, any(0, Math.max(0, model.pane(p, 1))), any(0, Math.max(0, model.pane(p, 2) - 1)), any(0, 2));
     }
 
     private boolean same(String call, int... a) {

@@ -6,7 +6,42 @@ final class Play {
     /** Numbers that no open pane of someClosed() has: no number at all, closed ones, ones to come, and none ever. */
     static final int[] NOT_OPEN = {0, -1, 8, 9, 10, 59, 60, 61, 1000000, Integer.MAX_VALUE, Integer.MIN_VALUE};
 
+    /** Of allKinds() and someClosed(): the panes that are no PAIRS, the PAIRS, and those that no signs come to. */
+    static final int[] LEAVES = {1, 2, 4, 6}, PAIRS = {3, 5, 7}, WITHOUT_SIGNS = {3, 4, 5, 6, 7};
+
+    private static final Calls CALLS = new Calls(GlkPanes.class);
+
     private Play() {
+    }
+
+    /** A call is BAD of each number that no open pane has, and well of one that is open. */
+    static void badOfNoOpenPane(String call, int well, int... others) {
+        int[] a = new int[others.length + 1];
+        System.arraycopy(others, 0, a, 1, others.length);
+        a[0] = well;
+        Due.isTrue(call + " of " + well + " is well", CALLS.answer(someClosed(), call, a) >= 0);
+        for (int n : NOT_OPEN) {
+            a[0] = n;
+            Due.is(call + " of " + n, CALLS.answer(someClosed(), call, a), GlkPanes.BAD);
+        }
+        a[0] = 1;
+        Due.is(call + " without a ROOT", CALLS.answer(new GlkPanes(20, 9), call, a), GlkPanes.BAD);
+    }
+
+    /** A call of a place is BAD at places that a screen of some columns and rows does not have, and at no others. */
+    static void badOutside(String call, GlkPanes x, int columns, int rows) {
+        int least = Integer.MIN_VALUE;
+        int most = Integer.MAX_VALUE;
+        int[][] outside = {{-1, 0}, {0, -1}, {columns, 0}, {0, rows}, {columns - 1, rows}, {columns, rows - 1},
+            {least, 0}, {0, least}, {most, 0}, {0, most}, {most, most}};
+        for (int[] place : outside) {
+            Due.is(call + " at " + place[0] + ", " + place[1], CALLS.answer(x, call, place), GlkPanes.BAD);
+        }
+        int[][] inside = {{0, 0}, {columns - 1, 0}, {0, rows - 1}, {columns - 1, rows - 1}};
+        for (int[] place : inside) {
+            boolean well = CALLS.answer(x, call, place) != GlkPanes.BAD;
+            Due.isTrue(call + " at " + place[0] + ", " + place[1] + " is well", well);
+        }
     }
 
     /** A screen whose ROOT, 1, is of a KIND. */
@@ -56,15 +91,17 @@ final class Play {
     /** What is shown in a pane's row, without the 32s at its end. */
     static String row(GlkPanes x, int pane, int y) {
         StringBuilder b = new StringBuilder();
-        for (int i = 0; i < x.pane(pane, 1); i++) {
+        int columns = x.pane(pane, 1);
+        for (int i = 0; i < columns; i++) {
             b.append((char) x.shown(pane, i, y, 0));
         }
         return b.toString().stripTrailing();
     }
 
     static void rows(String what, GlkPanes x, int pane, String... want) {
-        Due.is(what + ": rows", x.pane(pane, 2), want.length);
-        for (int y = 0; y < want.length && y < x.pane(pane, 2); y++) {
+        int rows = x.pane(pane, 2);
+        Due.is(what + ": rows", rows, want.length);
+        for (int y = 0; y < want.length && y < rows; y++) {
             String got = row(x, pane, y);
             Due.isTrue(what + ": row " + y + " is '" + want[y] + "', not '" + got + "'", got.equals(want[y]));
         }
@@ -88,10 +125,12 @@ final class Play {
     }
 
     static void screen(String what, GlkPanes x, String... want) {
-        Due.is(what + ": H", x.count(1), want.length);
-        for (int y = 0; y < want.length && y < x.count(1); y++) {
+        int columns = x.count(0);
+        int rows = x.count(1);
+        Due.is(what + ": H", rows, want.length);
+        for (int y = 0; y < want.length && y < rows; y++) {
             StringBuilder b = new StringBuilder();
-            for (int i = 0; i < x.count(0); i++) {
+            for (int i = 0; i < columns; i++) {
                 b.append((char) x.drawn(i, y));
             }
             String got = b.toString();

@@ -1,3 +1,6 @@
+import java.util.Arrays;
+import java.util.function.Supplier;
+
 /** The last sentences of the Terms: what BAD, NONE, NOT and FULL are, which one comes first, and that nothing changes. */
 public final class RefusalTermsTest implements Terms {
     private static final Calls CALLS = new Calls(GlkPanes.class);
@@ -5,7 +8,7 @@ public final class RefusalTermsTest implements Terms {
     /** A call that is refused in a state of the screen, with its answer. */
     private record Refused(int due, String call, int... arguments) {
         String name() {
-            return call + java.util.Arrays.toString(arguments);
+            return call + Arrays.toString(arguments);
         }
 
         int on(GlkPanes x) {
@@ -206,16 +209,24 @@ public final class RefusalTermsTest implements Terms {
 
     private static final String NOTHING_CHANGES = "What is refused changes nothing.";
 
-    private static void changesNothing(GlkPanes x, GlkPanes twin, Refused... calls) {
+    private static GlkPanes after(Supplier<GlkPanes> screen, Refused r) {
+        GlkPanes x = screen.get();
+        r.on(x);
+        return x;
+    }
+
+    private static void changesNothing(Supplier<GlkPanes> screen, Refused... calls) {
+        String before = Look.at(screen);
         for (Refused r : calls) {
-            Due.is(r.name(), r.on(x), r.due);
+            Due.is(r.name(), r.on(screen.get()), r.due);
+            Due.isTrue(r.name() + " changes nothing", Look.at(() -> after(screen, r)).equals(before));
         }
-        Due.isTrue(calls[0].name() + " and the like change nothing", Look.at(x).equals(Look.at(twin)));
     }
 
     @Says(NOTHING_CHANGES)
     static void refusedPanesChangeNothing() {
-        Refused[] calls = {refused(NOT, "open", 0, 0, 0, TEXT), refused(NOT, "open", 1, LEFT, 5, BLANK),
+        changesNothing(RefusalTermsTest::busy,
+            refused(NOT, "open", 0, 0, 0, TEXT), refused(NOT, "open", 1, LEFT, 5, BLANK),
             refused(BAD, "open", 8, LEFT, 5, TEXT), refused(BAD, "open", 1, 16, 5, TEXT),
             refused(BAD, "open", 1, LEFT, 1000, TEXT), refused(BAD, "open", 1, LEFT + SHARE, 101, TEXT),
             refused(BAD, "open", 1, LEFT, 5, PAIR), refused(BAD, "close", 0), refused(BAD, "close", 8),
@@ -225,15 +236,13 @@ public final class RefusalTermsTest implements Terms {
             refused(BAD, "arrange", 3, LEFT, 5, 7), refused(BAD, "arrange", 5, ABOVE, 5, 2),
             refused(NOT, "arrange", 3, ABOVE, 5, 0), refused(NOT, "arrange", 3, BELOW + SHARE, 5, 1),
             refused(NOT, "arrange", 5, LEFT, 5, 4), refused(NOT, "arrange", 3, LEFT, 5, 6),
-            refused(NOT, "arrange", 7, ABOVE, 5, 0), refused(BAD, "pane", 1, 10), refused(BAD, "pair", 3, 5)};
-        for (Refused r : calls) {
-            changesNothing(busy(), busy(), r);
-        }
+            refused(NOT, "arrange", 7, ABOVE, 5, 0), refused(BAD, "pane", 1, 10), refused(BAD, "pair", 3, 5));
     }
 
     @Says(NOTHING_CHANGES)
     static void refusedSignsChangeNothing() {
-        Refused[] calls = {refused(BAD, "sign", 2, 31), refused(BAD, "sign", 2, 127), refused(BAD, "sign", 8, 65),
+        changesNothing(RefusalTermsTest::busy,
+            refused(BAD, "sign", 2, 31), refused(BAD, "sign", 2, 127), refused(BAD, "sign", 8, 65),
             refused(NOT, "sign", 1, 65), refused(NOT, "sign", 1, END), refused(NOT, "sign", 3, 65),
             refused(NOT, "sign", 4, 65), refused(NOT, "sign", 6, 65), refused(BAD, "style", 2, 11),
             refused(BAD, "style", 2, -1), refused(NOT, "style", 3, 1), refused(BAD, "link", 2, 1000),
@@ -243,15 +252,13 @@ public final class RefusalTermsTest implements Terms {
             refused(BAD, "wipe", 8), refused(NOT, "wipe", 1), refused(NOT, "wipe", 4), refused(BAD, "picture", 4, 1000),
             refused(BAD, "picture", 4, -1), refused(NOT, "picture", 1, 1), refused(BAD, "shown", 1, 99, 0, 0),
             refused(NOT, "shown", 4, 0, 0, 0), refused(NOT, "lines", 2), refused(BAD, "drawn", 99, 0),
-            refused(BAD, "under", 0, 99)};
-        for (Refused r : calls) {
-            changesNothing(busy(), busy(), r);
-        }
+            refused(BAD, "under", 0, 99));
     }
 
     @Says(NOTHING_CHANGES)
     static void refusedAsksChangeNothing() {
-        Refused[] calls = {refused(BAD, "ask", 1, LINE, 0), refused(BAD, "ask", 1, LINE, 41),
+        changesNothing(RefusalTermsTest::busy,
+            refused(BAD, "ask", 1, LINE, 0), refused(BAD, "ask", 1, LINE, 41),
             refused(NOT, "ask", 1, LINE, 40), refused(NOT, "ask", 1, KEY, 0), refused(NOT, "ask", 1, CLICK, 0),
             refused(NOT, "ask", 2, KEY, 0), refused(NOT, "ask", 2, LINE, 5), refused(NOT, "ask", 2, LINK, 0),
             refused(NOT, "ask", 2, CLICK, 0), refused(NOT, "ask", 3, KEY, 0), refused(NOT, "ask", 4, LINE, 5),
@@ -262,44 +269,53 @@ public final class RefusalTermsTest implements Terms {
             refused(BAD, "echo", 8, 0), refused(BAD, "type", 1, 31), refused(BAD, "type", 2, 9),
             refused(BAD, "type", 2, 127), refused(BAD, "type", 8, 65), refused(BAD, "click", 42, 0),
             refused(BAD, "click", 0, 13), refused(BAD, "click", -1, 0), refused(BAD, "event", 44),
-            refused(BAD, "event", -1), refused(BAD, "count", 6)};
-        for (Refused r : calls) {
-            changesNothing(busy(), busy(), r);
-        }
+            refused(BAD, "event", -1), refused(BAD, "count", 6));
+    }
+
+    /** One EVENT waits in busy(). */
+    private static GlkPanes busyWithoutEvents() {
+        GlkPanes x = busy();
+        Due.is("the one that waits", x.take(), 4);
+        return x;
     }
 
     @Says(NOTHING_CHANGES)
     static void nothingTakenChangesNothing() {
-        GlkPanes x = busy();
-        GlkPanes twin = busy();
-        while (x.take() != NONE) {
-            twin.take();
-        }
-        changesNothing(x, twin, refused(NONE, "take"));
+        changesNothing(RefusalTermsTest::busyWithoutEvents, refused(NONE, "take"));
+    }
+
+    @Says(NOTHING_CHANGES)
+    static void nothingToldChangesNothing() {
+        changesNothing(() -> Play.root(6, 3, TEXT), refused(NONE, "take"), refused(NONE, "event", 0),
+            refused(BAD, "event", 44), refused(NONE, "cancel", 1, LINE));
+    }
+
+    private static GlkPanes gridWithALine() {
+        GlkPanes x = Play.root(6, 3, GRID);
+        x.sign(1, 'z');
+        x.ask(1, LINE, 5);
+        x.type(1, 'a');
+        return x;
     }
 
     @Says(NOTHING_CHANGES)
     static void aRefusedCursorChangesNothingBesideALine() {
-        GlkPanes x = Play.root(6, 3, GRID);
-        GlkPanes twin = Play.root(6, 3, GRID);
-        x.ask(1, LINE, 5);
-        twin.ask(1, LINE, 5);
-        x.type(1, 'a');
-        twin.type(1, 'a');
-        changesNothing(x, twin, refused(NOT, "cursor", 1, 3, 1), refused(NOT, "wipe", 1), refused(NOT, "sign", 1, 65),
-            refused(NOT, "sign", 1, END));
+        changesNothing(RefusalTermsTest::gridWithALine, refused(NOT, "cursor", 1, 3, 1), refused(NOT, "wipe", 1),
+            refused(NOT, "sign", 1, 65), refused(NOT, "sign", 1, END), refused(NOT, "ask", 1, LINE, 40));
+    }
+
+    private static GlkPanes with60NumbersAndNoRoot() {
+        GlkPanes x = with60Numbers();
+        x.close(60);
+        return x;
     }
 
     @Says(NOTHING_CHANGES)
     static void whatIsFullChangesNothing() {
-        changesNothing(withTwelve(), withTwelve(), refused(FULL, "open", 1, LEFT + SHARE, 50, TEXT),
+        changesNothing(RefusalTermsTest::withTwelve, refused(FULL, "open", 1, LEFT + SHARE, 50, TEXT),
             refused(FULL, "open", 23, ABOVE, 5, GRID));
-        changesNothing(with59Numbers(), with59Numbers(), refused(FULL, "open", 1, LEFT + SHARE, 50, TEXT));
-        changesNothing(with60Numbers(), with60Numbers(), refused(FULL, "open", 60, LEFT, 5, GRID));
-        GlkPanes x = with60Numbers();
-        GlkPanes twin = with60Numbers();
-        x.close(60);
-        twin.close(60);
-        changesNothing(x, twin, refused(FULL, "open", 0, 0, 0, TEXT));
+        changesNothing(RefusalTermsTest::with59Numbers, refused(FULL, "open", 1, LEFT + SHARE, 50, TEXT));
+        changesNothing(RefusalTermsTest::with60Numbers, refused(FULL, "open", 60, LEFT, 5, GRID));
+        changesNothing(RefusalTermsTest::with60NumbersAndNoRoot, refused(FULL, "open", 0, 0, 0, TEXT));
     }
 }

@@ -70,13 +70,13 @@ public final class SignTermsTest implements Terms {
 
     @Says("A GRID is blank at first (32, STYLE 0, LINK 0), with a CURSOR, at column 0 of row 0.")
     static void aGridIsBlankAtFirst() {
-        GlkPanes x = Play.root(60, 24, GRID);
         for (int y = 0; y < 24; y++) {
+            GlkPanes x = Play.root(60, 24, GRID);
+            Play.cursor("at first", x, 1, 0, 0);
             for (int i = 0; i < 60; i++) {
                 Play.ink("at first", x, 1, i, y, 32, 0, 0);
             }
         }
-        Play.cursor("at first", x, 1, 0, 0);
     }
 
     @Says("A sign is written there, if it lies in the GRID, and the CURSOR goes on by a column;")
@@ -311,8 +311,9 @@ public final class SignTermsTest implements Terms {
         Play.write(x, 1, "\n");
         Due.is("ten LINES and one more", x.lines(1), 11);
         Play.write(x, 1, "Y");
-        Play.rows("the new sign alone", x, 1, "Y", "", "", "", "", "", "", "", "", "", "");
         Due.is("one LINE", x.lines(1), 1);
+        Due.is("the new sign", x.shown(1, 0, 0, 0), 'Y');
+        Due.is("it alone", x.shown(1, 1, 0, 0), 32);
     }
 
     @Says(OLDEST_GOES)
