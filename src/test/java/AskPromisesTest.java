@@ -121,6 +121,18 @@ public final class AskPromisesTest implements Terms {
         Due.is("its LIMIT stays", x.cancel(1, LINE), 2);
     }
 
+    @Says(promise = 20, value = "An ASK, of LINE with a LIMIT")
+    static void askOfLinkOrClickLeavesTheLineAsItIs() {
+        GlkPanes x = Play.root(6, 3, GRID);
+        x.ask(1, LINE, 3);
+        Play.type(x, 1, "ab");
+        Due.is("LINK", x.ask(1, LINK, 1), 1);
+        Due.is("CLICK", x.ask(1, CLICK, 40), 1);
+        Play.rows("its signs stay", x, 1, "ab", "", "");
+        Play.type(x, 1, "cd");
+        Due.is("its LIMIT stays", x.cancel(1, LINE), 3);
+    }
+
     @Says(promise = 20, value = "it is asked already,")
     static void askOfAnotherPaneCanBe() {
         for (int kind = KEY; kind <= LINK; kind++) {

@@ -139,7 +139,7 @@ public final class RulesTest {
             y.sign(1, i % 7 == 0 ? 32 : 'a');
         }
         before = bean.getThreadAllocatedBytes(thread);
-        for (int i = 0; i < 100; i++) {
+        for (int i = 0; i < 20; i++) {
             y.lines(1);
             y.drawn(i % 60, i % 24);
             y.click(i % 60, i % 24);
@@ -147,7 +147,7 @@ public final class RulesTest {
             y.take();
         }
         long looks = bean.getThreadAllocatedBytes(thread) - before;
-        System.out.println("60 numbers of panes took " + panes + " bytes, 500 looks " + looks);
+        System.out.println("60 numbers of panes took " + panes + " bytes, 100 looks " + looks);
         Due.isTrue("60 numbers of panes take " + panes + " bytes", panes < 1_000_000);
         Due.isTrue("looks make nothing: " + looks + " bytes", looks < 20_000);
     }

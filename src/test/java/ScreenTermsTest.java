@@ -96,6 +96,17 @@ public final class ScreenTermsTest implements Terms {
     }
 
     @Says("60 in all;")
+    static void theSixtiethNumberMayBeAPairs() {
+        GlkPanes x = used(57);
+        x.close(1);
+        Due.is("58", x.open(0, 0, 0, TEXT), 58);
+        Due.is("59, with 60", x.open(58, LEFT, 5, GRID), 59);
+        Due.is("the PAIR", x.root(), 60);
+        Due.is("no more", x.open(60, LEFT, 5, GRID), FULL);
+        Due.is("in all", x.count(MADE), 60);
+    }
+
+    @Says("60 in all;")
     static void aSplitTakesTwoOfTheNumbers() {
         GlkPanes x = used(57);
         Due.is("58, with 59", x.open(1, LEFT + SHARE, 50, GRID), 58);
@@ -278,6 +289,27 @@ public final class ScreenTermsTest implements Terms {
             Due.is("columns of the other", x.pane(2, COLUMNS), 20);
             Due.is("rows of both, with the BORDER", x.pane(1, ROWS) + 1 + x.pane(2, ROWS), 9);
         }
+    }
+
+    /** A PAIR, 7, of 20 columns and 7 rows at 10, 5, whose sides are 4 and 6. */
+    private static GlkPanes innerPair(int method, int size) {
+        GlkPanes x = Play.split(30, 12, RIGHT + NO_BORDER, 20, TEXT);
+        x.open(2, BELOW, 7, TEXT);
+        x.open(4, method, size, GRID);
+        Play.room("the PAIR", x, 7, 20, 7, 10, 5);
+        return x;
+    }
+
+    @Says("A PAIR's room goes to its two sides, along its columns (LEFT, RIGHT) or rows: n of them;")
+    static void aPairsRoomIsSplitWhereItLies() {
+        Play.room("LEFT", innerPair(LEFT, 5), 6, 5, 7, 10, 5);
+        Play.room("LEFT, the other side", innerPair(LEFT, 5), 4, 14, 7, 16, 5);
+        Play.room("RIGHT", innerPair(RIGHT, 5), 6, 5, 7, 25, 5);
+        Play.room("RIGHT, the other side", innerPair(RIGHT, 5), 4, 14, 7, 10, 5);
+        Play.room("ABOVE", innerPair(ABOVE, 2), 6, 20, 2, 10, 5);
+        Play.room("ABOVE, the other side", innerPair(ABOVE, 2), 4, 20, 4, 10, 8);
+        Play.room("BELOW", innerPair(BELOW, 2), 6, 20, 2, 10, 10);
+        Play.room("BELOW, the other side", innerPair(BELOW, 2), 4, 20, 4, 10, 5);
     }
 
     private static final String BORDER_OF = "b is 1, if it has a BORDER and n is above 0, else 0.";

@@ -241,6 +241,21 @@ public final class SignTermsTest implements Terms {
         Play.rows("the rest", x, 1, "abcde", "ghijk", "mnopq", "");
     }
 
+    @Says("what is new is blank;")
+    static void whatWasAtTheEndOfTheLargestGridIsBlankWhenItIsWithinAgain() {
+        GlkPanes x = Play.root(60, 24, GRID);
+        int[][] places = {{59, 0}, {59, 22}, {0, 23}, {59, 23}};
+        for (int[] p : places) {
+            x.cursor(1, p[0], p[1]);
+            x.sign(1, 'z');
+        }
+        x.resize(59, 23);
+        x.resize(60, 24);
+        for (int[] p : places) {
+            Play.ink("new", x, 1, p[0], p[1], 32, 0, 0);
+        }
+    }
+
     @Says("the CURSOR stays.")
     static void theCursorStaysWithAnotherSize() {
         GlkPanes x = Play.root(20, 10, GRID);
