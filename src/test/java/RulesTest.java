@@ -23,9 +23,14 @@ public final class RulesTest {
         "hashCode", "toString", "->", "::", "Exact", "Random", "Thread", "System\\.(?!arraycopy)", "@SuppressWarnings",
         "Object", "Exception", "HashMap", "native", "volatile", "package"};
 
+    /** The part of LANGUAGE.md's library that the program needs. */
+    private static final Set<String> LIBRARY = Set.of("java/lang/Math.max", "java/lang/Math.min",
+        "java/lang/System.arraycopy", "java/util/Arrays.fill", "java/lang/Object.<init>");
+
     public static void main(String[] args) throws Exception {
         face();
         classesInside();
+        library();
         source(args.length > 0 ? args[0] : "src/main/java/GlkPanes.java");
         room();
         Due.end();
@@ -89,6 +94,17 @@ public final class RulesTest {
             for (Method m : c.getDeclaredMethods()) {
                 Due.isTrue(m + " has seven parameters at most", m.getParameterCount() <= 7);
             }
+        }
+    }
+
+    private static void library() throws Exception {
+        Set<String> used = new TreeSet<>(Library.usedBy(GlkPanes.class, "GlkPanes"));
+        for (Class<?> c : GlkPanes.class.getDeclaredClasses()) {
+            used.addAll(Library.usedBy(c, "GlkPanes"));
+        }
+        Due.isTrue("it uses something of the library", !used.isEmpty());
+        for (String method : used) {
+            Due.isTrue(method + " is of the library that may be used", LIBRARY.contains(method));
         }
     }
 
